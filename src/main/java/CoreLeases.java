@@ -454,8 +454,10 @@ public final class CoreLeases {
         hash = withTenants(hash);
         hash = withInsurers(hash);
         hash = withDebts(hash);
+        int weak = NONE;
         for (int i = 0; i < DIGEST_PLACES; i++) {
-            hash = mixed(hash, weakest(i));
+            weak = now.cores.nextWeakest(weak);
+            hash = mixed(hash, weak);
         }
         hash = mixed(hash, gentlest());
         hash = mixed(hash, savable(1));
@@ -855,8 +857,6 @@ public final class CoreLeases {
                 return NONE;
             }
             money[size] = sum;
-            lost[size] = 0;
-            paid[size] = 0;
             size++;
             return size - 1;
         }
@@ -891,8 +891,6 @@ public final class CoreLeases {
             fund[size] = newFund;
             rate[size] = newRate;
             cover[size] = newCover;
-            premiums[size] = 0;
-            claimsPaid[size] = 0;
             size++;
             return size - 1;
         }

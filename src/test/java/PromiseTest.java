@@ -16,9 +16,11 @@ public final class PromiseTest {
         leaseRefused();
         insure();
         insurePaysClaims();
+        insurePaysInOrder();
         insureRefused();
         renew();
         write();
+        writeInHeat();
         writeDisturbs();
         writeOverwrites();
         read();
@@ -27,6 +29,7 @@ public final class PromiseTest {
         writeBackOrder();
         pass();
         passDelays();
+        passDelaysAll();
         passEnds();
         passLimit();
         append();
@@ -37,6 +40,7 @@ public final class PromiseTest {
         runRefused();
         undo();
         undoOfEach();
+        undoOfEnds();
         core();
         tenant();
         insurer();
@@ -344,29 +348,95 @@ public final class PromiseTest {
         same("premiums", 4 * 23 + 8, x.insurer(0, 6));
     }
 
+    private static void insurePaysInOrder() {
+        promise = 6;
+        CoreLeases x = claimsOfMany();
+        int[] came = {3, 2, 1, 2, 2};
+        sameClaims("the claims came", x, came);
+        same("fund of the insurer 0", 36, x.insurer(0, 0));
+        same("fund of the insurer 1", 24, x.insurer(1, 0));
+        x.lease(40, 2, 200);
+        same("price", 201, x.insure(40, 0, 200));
+        int[] one = {2, 2, 1, 1, 2};
+        sameClaims("the first claim on the insurer 0 was paid", x, one);
+        same("fund", 0, x.insurer(0, 0));
+        same("paid to the tenant 1", 237, x.tenant(1, 4));
+        same("money of the tenant 1", 1000 - 24 + 237, x.tenant(1, 0));
+        same("paid to the others", 0, x.tenant(0, 4) + x.tenant(2, 4));
+        x.lease(41, 2, 200);
+        same("price", 201, x.insure(41, 1, 200));
+        sameClaims("the first claim on the insurer 1 was paid", x, new int[] {2, 1, 0, 1, 2});
+        same("paid to the tenant 0", 225, x.tenant(0, 4));
+        x.undo();
+        x.undo();
+        sameClaims("undo", x, one);
+        x.undo();
+        x.undo();
+        sameClaims("undo", x, came);
+        x.lease(40, 2, 200);
+        x.insure(40, 0, 200);
+        sameClaims("once more", x, one);
+        same("paid to the tenant 1", 237, x.tenant(1, 4));
+    }
+
+    /** Claims on the insurer 0 of the tenants 1, 2, 1, and among them on the insurer 1 of the tenants 0, 2. */
+    private static CoreLeases claimsOfMany() {
+        CoreLeases x = new CoreLeases();
+        for (int setting : new int[] {0, 1, 2, 5}) {
+            x.set(setting, 0);
+        }
+        for (int i = 0; i < 3; i++) {
+            x.addTenant(1000);
+        }
+        x.addInsurer(0, 100, 237);
+        x.addInsurer(0, 100, 225);
+        int[] tenants = {1, 0, 2, 1, 2};
+        int[] insurers = {0, 1, 0, 0, 1};
+        for (int core = 0; core < 5; core++) {
+            x.lease(core, tenants[core], 100);
+            x.write(core, true);
+            x.insure(core, insurers[core], 10);
+        }
+        x.set(5, 100);
+        x.lease(7, 0, 100);
+        x.write(7, false);
+        return x;
+    }
+
+    private static void sameClaims(String when, CoreLeases x, int[] due) {
+        same(when + ": claims on the insurer 0", due[0], x.insurer(0, 5));
+        same(when + ": claims on the insurer 1", due[1], x.insurer(1, 5));
+        for (int i = 0; i < 3; i++) {
+            same(when + ": claims of the tenant " + i, due[2 + i], x.tenant(i, 5));
+        }
+    }
+
     private static void insureRefused() {
         promise = 6;
         CoreLeases x = new CoreLeases();
         x.set(0, 0);
         x.addTenant(10);
         x.addInsurer(0, 150, 50);
+        x.addInsurer(0, 1, 50);
         noState(x, "insure of a core that is not leased", () -> x.insure(9, 0, 1));
         x.lease(9, 0, 7);
         noState(x, "insure for one more than the money", () -> x.insure(9, 0, 7));
-        noState(x, "insure for longer than the lease", () -> x.insure(9, 0, 8));
+        noState(x, "insure for longer than the lease", () -> x.insure(9, 1, 8));
         same("insure", 2, x.insure(9, 0, 1));
         noState(x, "insure of a core with a policy", () -> x.insure(9, 0, 1));
         x.pass(1);
         same("insure again", 2, x.insure(9, 0, 1));
         x.undo();
         x.pass(1);
-        noState(x, "insure for longer than what is left", () -> x.insure(9, 0, 6));
+        same("left", 5, x.core(9, 3));
+        noState(x, "insure for longer than what is left", () -> x.insure(9, 1, 6));
+        same("insure for as long as what is left", 1, x.insure(9, 1, 5));
         noArgument(x, "insure for 0 ticks", () -> x.insure(9, 0, 0));
         noArgument(x, "insure for 201 ticks", () -> x.insure(8, 0, 201));
         noIndex(x, "insure(-1, 0, 1)", () -> x.insure(-1, 0, 1));
         noIndex(x, "insure(64, 0, 0)", () -> x.insure(64, 0, 0));
         noIndex(x, "insure(9, -1, 1)", () -> x.insure(9, -1, 1));
-        noIndex(x, "insure(9, 1, 0)", () -> x.insure(9, 1, 0));
+        noIndex(x, "insure(9, 2, 0)", () -> x.insure(9, 2, 0));
         for (int v : TOO_LITTLE_OR_MUCH) {
             noIndex(x, "insure(" + v + ", 0, 1)", () -> x.insure(v, 0, 1));
             noIndex(x, "insure(0, " + v + ", 1)", () -> x.insure(0, v, 1));
@@ -441,6 +511,25 @@ public final class PromiseTest {
         noState(x, "write of a core that is not leased", () -> x.write(1, true));
         for (int core : new int[] {-1, 64, Integer.MIN_VALUE, Integer.MAX_VALUE}) {
             noIndex(x, "write(" + core + ")", () -> x.write(core, false));
+        }
+    }
+
+    private static void writeInHeat() {
+        promise = 8;
+        int[] heats = {0, 24, 25, 49, 50, 74, 75, 99, 100};
+        int[] falls = {1, 1, 2, 2, 3, 3, 4, 4, 5};
+        for (int i = 0; i < heats.length; i++) {
+            CoreLeases x = calm();
+            x.set(6, 0);
+            x.lease(0, 0, 9);
+            x.lease(1, 0, 9);
+            for (int heat = 0; heat < heats[i]; heat += 20) {
+                x.set(1, Math.min(20, heats[i] - heat));
+                x.write(1, false);
+            }
+            same("heat", heats[i], x.count(1));
+            x.write(0, false);
+            same("strength behind a write in a heat of " + heats[i], 100 - falls[i], x.core(0, 1));
         }
     }
 
@@ -683,6 +772,24 @@ public final class PromiseTest {
         same("no patience", 1, y.count(12));
     }
 
+    private static void passDelaysAll() {
+        promise = 11;
+        CoreLeases x = calm();
+        x.set(5, 0);
+        for (int core = 0; core < 64; core++) {
+            one(x, core);
+        }
+        for (int core = 63; core >= 0; core--) {
+            x.read(core);
+        }
+        same("the last one in the order", 0, x.owed(63, 0));
+        same("savable(9)", 54, x.savable(9));
+        same("savable(1)", 6, x.savable(1));
+        x.pass(6);
+        same("owed", 0, x.count(6));
+        same("lost by delay", 64, x.count(12));
+    }
+
     private static void passEnds() {
         promise = 11;
         CoreLeases x = calm();
@@ -855,8 +962,11 @@ public final class PromiseTest {
         for (int i = 0; i < 100; i++) {
             y.pass(i == 0 ? 94 : 100);
         }
-        type(y, "t5;t2;t1");
-        same("run at 9994", 1, y.run(0));
+        type(y, "t2;t1;t4;t1");
+        same("run at 9994", 2, y.run(0));
+        same("time", 9997, y.count(0));
+        type(y, "t2;t2");
+        same("run at 9997", 1, y.run(0));
         same("time", 9999, y.count(0));
         type(y, "t1;t1");
         same("run at 9999", 1, y.run(0));
@@ -926,6 +1036,26 @@ public final class PromiseTest {
             same("undo of change " + i, 3, x.undo());
             same("digest behind undo of change " + i, before, x.digest());
         }
+    }
+
+    private static void undoOfEnds() {
+        promise = 16;
+        CoreLeases x = calm();
+        x.lease(0, 0, 9);
+        x.insure(0, 0, 4);
+        x.pass(9);
+        x.lease(0, 1, 50);
+        x.insure(0, 0, 30);
+        for (int i = 0; i < 3; i++) {
+            x.undo();
+        }
+        same("tenant behind undo", 0, x.core(0, 2));
+        same("lease left behind undo", 9, x.core(0, 3));
+        same("policy left behind undo", 4, x.core(0, 5));
+        x.pass(4);
+        same("the policy ends when it did", -1, x.core(0, 4));
+        x.pass(5);
+        same("the lease ends when it did", -1, x.core(0, 2));
     }
 
     private static CoreLeases full() {
@@ -1268,6 +1398,8 @@ public final class PromiseTest {
         CoreLeases x = calm();
         x.lease(0, 0, 200);
         same("no wait", 0, x.waitFor(0, 0, 100, 101));
+        same("for one tick", 0, x.waitFor(0, 0, 1, 2));
+        same("never for one tick", -1, x.waitFor(0, 0, 1, 1));
         same("never", -1, x.waitFor(0, 0, 100, 100));
         x.set(1, 20);
         x.write(0, true);
@@ -1402,6 +1534,12 @@ public final class PromiseTest {
         for (int pace = 1; pace <= 9; pace++) {
             same("savable(" + pace + ")", due[pace], x.savable(pace));
         }
+        x.writeBack();
+        x.writeBack();
+        same("savable(1) behind two write-backs", 3, x.savable(1));
+        same("savable(9) behind two write-backs", 6, x.savable(9));
+        x.undo();
+        x.undo();
         x.set(4, 98);
         same("savable(9) with weak cores", 0, x.savable(9));
         x.set(4, 97);
@@ -1499,8 +1637,22 @@ public final class PromiseTest {
 
     private static void digest() {
         promise = 32;
-        CoreLeases x = full();
         same("digest()", hashOf(new CoreLeases(), ""), new CoreLeases().digest());
+        CoreLeases y = calm();
+        y.set(5, 0);
+        y.set(3, 1);
+        for (int core = 0; core < 8; core++) {
+            one(y, core);
+        }
+        for (int core = 0; core < 8; core++) {
+            y.read(core);
+        }
+        same("savable(1)", 2, y.savable(1));
+        same("savable(2)", 4, y.savable(2));
+        same("savable(3)", 6, y.savable(3));
+        same("savable(4)", 8, y.savable(4));
+        same("digest()", hashOf(y, ""), y.digest());
+        CoreLeases x = full();
         String text = "";
         for (int i = 0; i < 120; i++) {
             same("digest() in step " + i, hashOf(x, text), x.digest());
