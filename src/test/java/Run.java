@@ -350,6 +350,67 @@ final class Run {
         return y;
     }
 
+    /** The answers of calls that change nothing, each on an object that has room for it. */
+    private List<Object> answers(List<Call> asked) {
+        List<Object> all = new ArrayList<>();
+        CoreLeases y = null;
+        for (int i = 0, left = 0; i < asked.size(); i++, left--) {
+            if (left == 0) {
+                y = again();
+                left = MOST_CALLS - calls.size();
+            }
+            all.add(asked.get(i).on(y));
+        }
+        return all;
+    }
+
+    /** The digest as promise 32 tells it, out of the other answers of the face and the text in the buffer. */
+    long toldDigest(String text) {
+        CoreLeases y = again();
+        List<Call> asked = new ArrayList<>();
+        ask(asked, 19, (o, i) -> o.count(i));
+        ask(asked, 8, (o, i) -> o.setting(i));
+        for (int n = 0; n < 64; n++) {
+            int core = n;
+            ask(asked, 9, (o, i) -> o.core(core, i));
+            asked.add(o -> o.ifRead(core, 1));
+        }
+        for (int n = 0; n < y.count(2); n++) {
+            int tenant = n;
+            ask(asked, 6, (o, i) -> o.tenant(tenant, i));
+            asked.add(o -> o.atRisk(tenant));
+        }
+        for (int n = 0; n < y.count(3); n++) {
+            int insurer = n;
+            ask(asked, 7, (o, i) -> o.insurer(insurer, i));
+        }
+        for (int n = 0; n < y.count(6); n++) {
+            int place = n;
+            ask(asked, 2, (o, i) -> o.owed(place, i));
+        }
+        ask(asked, 8, (o, i) -> o.weakest(i));
+        asked.add(o -> o.gentlest());
+        asked.add(o -> o.savable(1));
+        asked.add(o -> o.savable(3));
+        asked.add(o -> Double.doubleToLongBits(o.backShare()));
+        long hash = 2351;
+        for (Object value : answers(asked)) {
+            hash = 31 * hash + ((Number) value).longValue();
+        }
+        hash = 31 * hash + text.length();
+        for (char c : text.toCharArray()) {
+            hash = 31 * hash + c;
+        }
+        return hash;
+    }
+
+    private static void ask(List<Call> asked, int many, CallWith c) {
+        for (int n = 0; n < many; n++) {
+            int i = n;
+            asked.add(o -> c.on(o, i));
+        }
+    }
+
     private static String answer(CoreLeases y, Call c) {
         try {
             return c.on(y).toString();
