@@ -198,7 +198,7 @@ public final class CoreLeases {
         saves.keep(now);
         int done = 0;
         int place = 0;
-        while (place < text.length && canDoStep(tenant, place)) {
+        while (done < MOST_TEXT && place < text.length && canDoStep(tenant, place)) {
             doStep(place);
             done++;
             place += text.stepLength(place) + 1;

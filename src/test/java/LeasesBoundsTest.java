@@ -96,6 +96,18 @@ public final class LeasesBoundsTest {
             r.same("lease(0, 0, 200)", 0, r.lease(0, 0, 200));
             r.sameCounts("the house", 16, 0);
         });
+        Bounds.test("each rent comes to what the house has", r -> {
+            r.addTenant(14);
+            r.addTenant(10);
+            r.lease(0, 0, 3);
+            r.sameCounts("the first", 16, 6);
+            r.lease(1, 1, 5);
+            r.sameCounts("the second", 16, 16);
+            r.lease(2, 0, 4);
+            r.sameCounts("the third", 16, 24);
+            r.same("tenant(0, 0)", 0, r.tenant(0, 0));
+            r.same("tenant(1, 0)", 0, r.tenant(1, 0));
+        });
         Bounds.test("the greatest rent for the most ticks", r -> {
             r.addTenant(4001);
             r.addTenant(3999);

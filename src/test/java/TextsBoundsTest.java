@@ -1,3 +1,5 @@
+import java.util.function.Consumer;
+
 /** Boundary cases of the promises 12 to 16, and of "Terms", input text and undo: the buffer, programs, saved states. */
 public final class TextsBoundsTest {
 
@@ -25,6 +27,8 @@ public final class TextsBoundsTest {
         undo();
         undoOfBuffer();
         Bounds.promise("Terms, undo");
+        restoresEach();
+        restoresClaims();
         savesEvenIfNothingChanges();
         Bounds.end();
     }
@@ -498,6 +502,124 @@ public final class TextsBoundsTest {
     }
 
     // ---- what is saved
+
+    /** A state, and a call whose undo must restore all of it; the undo ahead makes room for one saved state. */
+    private static void restores(String told, Consumer<Run> state, Consumer<Run> change) {
+        Bounds.test("saves the state from before it: " + told, r -> {
+            state.accept(r);
+            r.set(7, 1);
+            r.undo();
+            int saved = r.count(18);
+            long before = r.digest();
+            change.accept(r);
+            r.same("saved states", saved + 1, r.count(18));
+            r.same("undo()", saved, r.undo());
+            r.same("digest()", before, r.digest());
+        });
+    }
+
+    private static void restoresEach() {
+        restores("addTenant", r -> r.busy(), r -> r.addTenant(5));
+        restores("addInsurer", r -> r.busy(), r -> r.addInsurer(5, 6, 7));
+        for (int i = 0; i < 8; i++) {
+            int setting = i;
+            restores("set of " + setting, r -> r.busy(), r -> r.set(setting, 9));
+        }
+        restores("lease", r -> r.busy(), r -> r.lease(40, 1, 9));
+        restores("insure", r -> r.busy(), r -> r.insure(20, 1, 9));
+        restores("renew", r -> r.busy(), r -> r.renew(9));
+        restores("write", r -> r.busy(), r -> r.write(20, false));
+        restores("a write that overwrites", r -> r.busy(), r -> r.write(4, true));
+        restores("a write that disturbs", r -> {
+            r.calm().ones(0, 1, 8);
+            r.set(5, 100);
+        }, r -> r.write(0, true));
+        restores("read", r -> r.busy(), r -> r.read(20));
+        restores("writeBack", r -> r.busy(), r -> r.writeBack());
+        restores("a writeBack of a weak core", r -> {
+            r.busy();
+            r.set(4, 100);
+        }, r -> r.writeBack());
+        restores("pass", r -> r.busy(), r -> r.pass(1));
+        restores("pass of so many ticks that all ends", r -> r.busy(), r -> r.pass(100));
+        restores("run", r -> r.busy().clearBuffer(), r -> {
+            r.type("w24=0;b;t3;r24;t9;b");
+            r.run(0);
+        });
+        Bounds.test("saves the state from before it: how long a policy and a lease went on that have ended since", r -> {
+            r.calm().lease(0, 0, 9);
+            r.insure(0, 0, 4);
+            r.pass(9);
+            r.lease(0, 1, 50);
+            r.insure(0, 0, 30);
+            r.undo();
+            r.undo();
+            r.undo();
+            r.sameCore("behind undo", 0, 0, 100, 0, 9, 0, 4);
+            r.pass(3);
+            r.sameCore("in the last tick of the policy", 0, 0, 100, 0, 6, 0, 1);
+            r.pass(1);
+            r.sameCore("behind it", 0, 0, 100, 0, 5, -1, 0);
+            r.pass(5);
+            r.sameCore("behind the lease", 0, 0, 100, -1, 0, -1, 0);
+        });
+        Bounds.test("saves the state from before it: the order of the write-backs", r -> {
+            r.calm().ones(5, 3, 4);
+            r.read(5);
+            r.read(3);
+            r.read(4);
+            r.write(5, true);
+            r.read(5);
+            r.same("owed(2, 0)", 5, r.owed(2, 0));
+            r.undo();
+            r.undo();
+            r.same("owed(0, 0)", 5, r.owed(0, 0));
+            r.same("owed(1, 0)", 3, r.owed(1, 0));
+            r.same("owed(2, 0)", 4, r.owed(2, 0));
+        });
+    }
+
+    /** The tenants 0 and 1 have a bit each on the cores 1 and 2 with policies; setting 5 is such that all are lost. */
+    private static Run insured(Run r, int fund) {
+        r.calm().addInsurer(fund, 1, 500);
+        r.lease(7, 0, 50);
+        for (int core = 1; core <= 2; core++) {
+            r.lease(core, core - 1, 50);
+            r.write(core, true);
+            r.insure(core, 1, 20);
+        }
+        r.set(5, 100);
+        return r;
+    }
+
+    private static void restoresClaims() {
+        restores("claims that are paid", r -> insured(r, 10000), r -> r.write(7, false));
+        restores("claims that wait", r -> insured(r, 0), r -> r.write(7, false));
+        restores("a claim that is paid and one that waits", r -> insured(r, 500), r -> r.write(7, false));
+        restores("claims that a premium pays", r -> {
+            insured(r, 996).write(7, false);
+            r.lease(40, 0, 200);
+        }, r -> r.insure(40, 1, 200));
+        Bounds.test("saves the state from before it: the claims wait again, in their order", r -> {
+            // The fund is 497 with both premiums; those of 40 and 41 are 3 each.
+            insured(r, 495).write(7, false);
+            r.lease(40, 0, 200);
+            r.lease(41, 0, 200);
+            r.same("insure(40, 1, 200)", 3, r.insure(40, 1, 200));
+            r.same("tenant(0, 4)", 500, r.tenant(0, 4));
+            r.same("tenant(1, 5)", 1, r.tenant(1, 5));
+            r.undo();
+            r.same("tenant(0, 4)", 0, r.tenant(0, 4));
+            r.same("tenant(0, 5)", 1, r.tenant(0, 5));
+            r.same("tenant(1, 5)", 1, r.tenant(1, 5));
+            r.same("insurer(1, 4)", 0, r.insurer(1, 4));
+            r.same("insurer(1, 5)", 2, r.insurer(1, 5));
+            r.insure(41, 1, 200);
+            r.same("tenant(0, 4)", 500, r.tenant(0, 4));
+            r.same("tenant(1, 4)", 0, r.tenant(1, 4));
+            r.same("tenant(1, 5)", 1, r.tenant(1, 5));
+        });
+    }
 
     private static void savesEvenIfNothingChanges() {
         Bounds.test("also if it changes nothing: set to the same value", r -> {

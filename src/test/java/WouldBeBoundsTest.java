@@ -214,6 +214,17 @@ public final class WouldBeBoundsTest {
             r.write(63, true);
             r.same("gentlest()", 0, r.gentlest());
         });
+        Bounds.test("of several the one with the greatest strength, also where a read would leave none of it", r -> {
+            r.calm().lease(0, 0, 200);
+            r.lease(9, 0, 200);
+            r.weaken(0, 3);
+            for (int i = 0; i < 19; i++) {
+                r.write(9, true);
+            }
+            r.same("core(9, 1)", 5, r.core(9, 1));
+            r.same("ifRead(9, 3)", 0, r.ifRead(9, 3));
+            r.same("gentlest()", 9, r.gentlest());
+        });
         Bounds.test("the fewest bits by disturbing, by one, ahead of the strength", r -> {
             r.calm().ones(0, 1, 9, 63);
             r.set(5, 100);
@@ -484,6 +495,15 @@ public final class WouldBeBoundsTest {
         Bounds.test("1 of 1 is 1.0", r -> {
             r.calm().one(0);
             r.read(0);
+            r.writeBack();
+            sameShare(r, 1.0);
+        });
+        Bounds.test("divided by count(9): reads that destroyed none do not count", r -> {
+            r.calm().one(0);
+            r.lease(1, 0, 9);
+            r.read(1);
+            r.read(0);
+            r.read(1);
             r.writeBack();
             sameShare(r, 1.0);
         });
