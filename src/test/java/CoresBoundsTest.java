@@ -251,6 +251,8 @@ public final class CoresBoundsTest {
             r.lease(0, 1, 9);
             r.set(5, 100);
             r.write(0, true);
+            r.same("core(1, 0)", 0, r.core(1, 0));
+            r.sameCounts("by disturbing", 13, 1, 7, 1);
             r.same("core(1, 8)", 1, r.core(1, 8));
             r.same("tenant(0, 3)", 0, r.tenant(0, 3));
             r.same("tenant(1, 3)", 0, r.tenant(1, 3));
@@ -449,6 +451,14 @@ public final class CoresBoundsTest {
                 r.same("core(0, 0)", bit ? 1 : 0, r.core(0, 0));
             });
         }
+        Bounds.test("a write-back that is owed for the core is overwritten, also if the core is too weak for a 1", r -> {
+            r.calm().one(0);
+            r.read(0);
+            r.set(4, 100);
+            r.same("write(0, true)", 0, r.write(0, true));
+            r.sameCounts("behind it", 14, 1, 6, 0, 11, 0);
+            r.sameCore("behind it", 0, 0, 97, 0, 200, -1, 0, 0, -1, 0);
+        });
         Bounds.test("if none is owed for the core, none is overwritten", r -> {
             r.calm().ones(0, 1);
             r.read(1);
@@ -491,6 +501,13 @@ public final class CoresBoundsTest {
             r.set(3, 50);
             r.read(0);
             r.same("core(0, 7)", 10050, r.core(0, 7));
+        });
+        Bounds.test("a read of a 0 of a core without strength is a read", r -> {
+            r.calm().lease(9, 0, 200);
+            r.weaken(9, 0);
+            r.write(9, false);
+            r.same("read(9)", 0, r.read(9));
+            r.sameCounts("behind it", 8, 1, 9, 0);
         });
         Bounds.test("a read does not need the least strength for a 1", r -> {
             r.calm().one(0);

@@ -98,6 +98,10 @@ public final class FaceTest {
             must(Modifier.isStatic(m) && !Modifier.isPublic(m) && !Modifier.isProtected(m), c.getName());
             long own = Arrays.stream(c.getDeclaredFields()).filter(f -> !Modifier.isStatic(f.getModifiers())).count();
             must(own <= 20, c.getName() + " has more than twenty fields");
+            for (Field f : c.getDeclaredFields()) {
+                int of = f.getModifiers();
+                must(!Modifier.isStatic(of) || Modifier.isFinal(of), f + " is static and not final");
+            }
         }
     }
 }

@@ -30,6 +30,8 @@ public final class LanguageTest {
         }
         Matcher thrown = Pattern.compile("\\bthrow\\b(?! new I\\w+Exception\\(\"[^\"]*\"\\);)").matcher(code);
         must(!thrown.find(), "a throw of another form");
+        onlyTheLibraryThatIsListed(code);
+        fewParameters(code);
         noCallMakesAnything(code);
         shortMethods(text.lines().toList());
         System.out.println("things wrong with the text: " + wrong);
@@ -40,6 +42,21 @@ public final class LanguageTest {
         if (!holds) {
             wrong++;
             System.out.println("the text: " + what);
+        }
+    }
+
+    private static void onlyTheLibraryThatIsListed(String code) {
+        List<String> listed = List.of("Math.min", "Math.max", "Long.bitCount", "Arrays.fill", "System.arraycopy");
+        Matcher used = Pattern.compile("\\b[A-Z][a-z]\\w*\\.\\w+").matcher(code);
+        while (used.find()) {
+            must(listed.contains(used.group()), "not listed: " + used.group());
+        }
+    }
+
+    private static void fewParameters(String code) {
+        Matcher heads = Pattern.compile("(?m)^ +[\\w \\[\\]]*\\w+\\(([^()]*)\\)[\\w\\s,]*\\{").matcher(code);
+        while (heads.find()) {
+            must(heads.group(1).split(",").length <= 7, "a method with more than seven parameters: " + heads.group());
         }
     }
 

@@ -419,6 +419,20 @@ public final class LeasesBoundsTest {
             r.renew(1);
             r.sameCounts("paid", 16, 2, 17, 50);
         });
+        Bounds.test("puts a new core in the place, and that is no pulse: no heat, nothing is disturbed", r -> {
+            r.calm().ones(1, 8);
+            r.lease(0, 0, 1);
+            r.write(0, true);
+            r.heatTo(50);
+            r.pass(1);
+            r.set(1, 20);
+            r.set(2, 20);
+            r.set(5, 100);
+            r.set(7, 0);
+            r.same("renew(0)", 99, r.renew(0));
+            r.sameCounts("behind it", 0, 1, 1, 48, 7, 2, 8, 0, 13, 0);
+            r.sameCore("renewed", 0, 0, 100, -1, 0, -1, 0, 0, -1, 0);
+        });
         Bounds.test("undoable", r -> {
             r.calm().lease(0, 0, 1);
             r.write(0, true);

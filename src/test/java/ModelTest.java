@@ -4,28 +4,43 @@ import java.util.function.LongSupplier;
 /** Random runs of 512 calls on a CoreLeases and on the Model, whose answers must be the same. */
 public final class ModelTest {
 
-    private static final int RUNS = 1000;
+    private static final int RUNS = 1500;
     private static final int CALLS = 512;
+
+    private static final int[] MOST = {20, 20, 20, 50, 100, 100, 10, 50};
+
+    // How often each kind of call is made in a run of each style; the kinds are in the order of the cases of act().
+    private static final int WILD = 0;
+    private static final int CLAIMS = 1;
+    private static final int OWED = 2;
+    private static final int HOT = 3;
+    private static final int LATE = 4;
+    private static final int[][] OFTEN = {
+        {5, 4, 6, 15, 12, 3, 15, 14, 8, 6, 9, 3},
+        {1, 1, 5, 6, 24, 1, 26, 14, 8, 5, 6, 3},
+        {1, 1, 8, 6, 6, 1, 18, 28, 14, 8, 7, 2},
+        {1, 1, 4, 6, 9, 4, 26, 24, 9, 3, 10, 3},
+        {1, 1, 5, 12, 14, 7, 14, 14, 6, 16, 8, 2}};
 
     private final Random random;
     private final CoreLeases x = new CoreLeases();
     private final Model m = new Model();
     private final int near;
-    private final int busy;
+    private final int style;
     private final StringBuilder log = new StringBuilder();
     private int made = 0;
 
     private ModelTest(long seed) {
         random = new Random(seed);
         near = random.nextInt(64);
-        busy = random.nextInt(3);
+        style = random.nextInt(OFTEN.length);
     }
 
     public static void main(String[] args) {
         int failed = 0;
         for (int seed = 0; seed < RUNS && failed < 5; seed++) {
             ModelTest run = new ModelTest(seed);
-            boolean holds = true;
+            boolean holds = run.begin();
             while (holds && run.made < CALLS) {
                 holds = run.oneCall();
             }
@@ -38,9 +53,31 @@ public final class ModelTest {
         System.exit(failed == 0 ? 0 : 1);
     }
 
+    /** Brings a run that is not wild to a state in which much can come: leases, ones and policies of several. */
+    private boolean begin() {
+        boolean holds = true;
+        for (int i = random.nextInt(8); holds && style == LATE && i < 98; i++) {
+            holds = same("pass(100)", () -> x.pass(100), () -> m.pass(100));
+        }
+        for (int i = random.nextInt(6); holds && style != WILD && i >= 0; i--) {
+            holds = addTenant(2000 + random.nextInt(8001));
+        }
+        for (int i = random.nextInt(4); holds && style != WILD && i > 0; i--) {
+            holds = addInsurer();
+        }
+        for (int i = 0; holds && style != WILD && i < MOST.length; i++) {
+            holds = random.nextBoolean() || set(i);
+        }
+        for (int i = random.nextInt(20); holds && style != WILD && i > 0; i--) {
+            int core = someCore();
+            holds = lease(core) && write(core) && insure(core);
+        }
+        return holds;
+    }
+
     /** A number mostly from least to most, at times an end of that or one beyond it. */
     private int from(int least, int most) {
-        switch (random.nextInt(40)) {
+        switch (random.nextInt(60)) {
             case 0:
                 return least - 1;
             case 1:
@@ -49,9 +86,11 @@ public final class ModelTest {
                 return random.nextBoolean() ? Integer.MIN_VALUE : Integer.MAX_VALUE;
             case 3:
             case 4:
-                return least;
             case 5:
+                return least;
             case 6:
+            case 7:
+            case 8:
                 return most;
             default:
                 return least + random.nextInt(most - least + 1);
@@ -60,14 +99,17 @@ public final class ModelTest {
 
     /** Mostly a core on the lines of one core of this run, so that the cores of a run meet. */
     private int someCore() {
-        switch (random.nextInt(busy == 0 ? 3 : 6)) {
+        switch (random.nextInt(style == WILD ? 3 : 8)) {
             case 0:
                 return from(0, 63);
             case 1:
             case 2:
                 return near / 8 * 8 + random.nextInt(8);
-            default:
+            case 3:
+            case 4:
                 return random.nextInt(8) * 8 + near % 8;
+            default:
+                return near / 8 * 8 + random.nextInt(style == HOT ? 3 : 6);
         }
     }
 
@@ -81,6 +123,16 @@ public final class ModelTest {
 
     private int fewTicks(int most) {
         return random.nextInt(4) == 0 ? from(1, most) : from(1, 12);
+    }
+
+    private int someValue(int setting) {
+        int most = setting >= 0 && setting < MOST.length ? MOST[setting] : 10;
+        boolean disturbing = setting == 5 && (style == CLAIMS || random.nextBoolean());
+        if (disturbing || style == HOT && (setting == 1 || setting == 2)) {
+            return from(most * 9 / 10, most);
+        }
+        boolean few = style == OWED && setting == 3 || style == HOT && setting == 6 || setting == 0 && style != WILD;
+        return few ? from(0, most / 6) : from(0, most);
     }
 
     /** Compares the answers to one more call; behind the 512th there is none to compare. */
@@ -107,71 +159,109 @@ public final class ModelTest {
     }
 
     private boolean oneCall() {
-        if (!actAtRandom()) {
+        if (!act()) {
             return false;
         }
-        return random.nextInt(6) == 0 ? askAtRandom() : same("digest()", () -> x.digest(), () -> m.digest());
+        switch (random.nextInt(9)) {
+            case 0:
+                return askAtRandom();
+            case 1:
+            case 2:
+            case 3:
+            case 4:
+                return same("digest()", () -> x.digest(), () -> m.digest());
+            default:
+                return true;
+        }
     }
 
-    private boolean actAtRandom() {
-        int kind = random.nextInt(100);
-        if (kind < 5) {
-            int money = random.nextInt(3) == 0 ? from(0, 10000) : random.nextInt(300);
-            return same("addTenant(" + money + ")", () -> x.addTenant(money), () -> m.addTenant(money));
+    private int someKind() {
+        int left = random.nextInt(100);
+        int kind = 0;
+        while (kind < OFTEN[style].length - 1 && left >= OFTEN[style][kind]) {
+            left -= OFTEN[style][kind];
+            kind++;
         }
-        if (kind < 9) {
-            int fund = random.nextInt(3) == 0 ? from(0, 10000) : random.nextInt(60);
-            int rate = from(1, 200);
-            int cover = random.nextInt(3) == 0 ? from(1, 500) : 1 + random.nextInt(60);
-            return same("addInsurer(" + fund + "," + rate + "," + cover + ")",
-                () -> x.addInsurer(fund, rate, cover), () -> m.addInsurer(fund, rate, cover));
-        }
-        if (kind < 15) {
-            int setting = from(0, 7);
-            int[] most = {20, 20, 20, 50, 100, 100, 10, 50};
-            int value = from(0, setting >= 0 && setting < 8 ? most[setting] : 10);
-            return same("set(" + setting + "," + value + ")", () -> x.set(setting, value), () -> m.set(setting, value));
-        }
-        if (kind < 45) {
-            return actOnCore(kind);
-        }
-        if (kind < 60) {
-            int core = someCore();
-            boolean bit = random.nextInt(5) != 0;
-            return same("write(" + core + "," + bit + ")", () -> x.write(core, bit), () -> m.write(core, bit));
-        }
-        if (kind < 74) {
-            int core = someCore();
-            return same("read(" + core + ")", () -> x.read(core), () -> m.read(core));
-        }
-        if (kind < 82) {
-            return same("writeBack()", () -> x.writeBack(), () -> m.writeBack());
-        }
-        if (kind < 88) {
-            int ticks = busy == 1 ? from(60, 100) : fewTicks(100) % 101;
-            return same("pass(" + ticks + ")", () -> x.pass(ticks), () -> m.pass(ticks));
-        }
-        if (kind < 97) {
-            return actOnText();
-        }
-        return same("undo()", () -> x.undo(), () -> m.undo());
+        return kind;
     }
 
-    private boolean actOnCore(int kind) {
+    private boolean act() {
         int core = someCore();
+        switch (someKind()) {
+            case 0:
+                return addTenant(random.nextInt(3) == 0 ? from(0, 10000) : random.nextInt(300));
+            case 1:
+                return addInsurer();
+            case 2:
+                return set(from(0, 7));
+            case 3:
+                return lease(core);
+            case 4:
+                return insure(core);
+            case 5:
+                return same("renew(" + core + ")", () -> x.renew(core), () -> m.renew(core));
+            case 6:
+                return write(core);
+            case 7:
+                return same("read(" + core + ")", () -> x.read(core), () -> m.read(core));
+            case 8:
+                return same("writeBack()", () -> x.writeBack(), () -> m.writeBack());
+            case 9:
+                return pass();
+            case 10:
+                return actOnText();
+            default:
+                return undo();
+        }
+    }
+
+    private boolean addTenant(int money) {
+        return same("addTenant(" + money + ")", () -> x.addTenant(money), () -> m.addTenant(money));
+    }
+
+    private boolean addInsurer() {
+        int fund = random.nextInt(3) == 0 ? from(0, 10000) : random.nextInt(60);
+        int rate = from(1, 200);
+        int cover = random.nextInt(3) == 0 ? from(1, 500) : 1 + random.nextInt(60);
+        return same("addInsurer(" + fund + "," + rate + "," + cover + ")",
+            () -> x.addInsurer(fund, rate, cover), () -> m.addInsurer(fund, rate, cover));
+    }
+
+    private boolean set(int setting) {
+        int value = someValue(setting);
+        return same("set(" + setting + "," + value + ")", () -> x.set(setting, value), () -> m.set(setting, value));
+    }
+
+    private boolean lease(int core) {
+        int tenant = someTenant();
+        int term = random.nextInt(3) == 0 ? fewTicks(200) : from(20, 200);
+        return same("lease(" + core + "," + tenant + "," + term + ")",
+            () -> x.lease(core, tenant, term), () -> m.lease(core, tenant, term));
+    }
+
+    private boolean insure(int core) {
+        int insurer = someInsurer();
         int ticks = fewTicks(200);
-        if (kind < 30) {
-            int tenant = someTenant();
-            int term = random.nextInt(3) == 0 ? ticks : from(20, 200);
-            return same("lease(" + core + "," + tenant + "," + term + ")",
-                () -> x.lease(core, tenant, term), () -> m.lease(core, tenant, term));
+        return same("insure(" + core + "," + insurer + "," + ticks + ")",
+            () -> x.insure(core, insurer, ticks), () -> m.insure(core, insurer, ticks));
+    }
+
+    private boolean write(int core) {
+        boolean bit = random.nextInt(6) != 0;
+        return same("write(" + core + "," + bit + ")", () -> x.write(core, bit), () -> m.write(core, bit));
+    }
+
+    private boolean pass() {
+        int ticks = random.nextInt(style == LATE ? 2 : 3) == 0 ? from(1, 100) : from(1, 7);
+        return same("pass(" + ticks + ")", () -> x.pass(ticks), () -> m.pass(ticks));
+    }
+
+    private boolean undo() {
+        boolean holds = true;
+        for (int i = random.nextInt(3); holds && i >= 0; i--) {
+            holds = same("undo()", () -> x.undo(), () -> m.undo());
         }
-        if (kind < 42) {
-            int insurer = someInsurer();
-            return same("insure(" + core + "," + insurer + "," + ticks + ")",
-                () -> x.insure(core, insurer, ticks), () -> m.insure(core, insurer, ticks));
-        }
-        return same("renew(" + core + ")", () -> x.renew(core), () -> m.renew(core));
+        return holds;
     }
 
     private boolean actOnText() {
@@ -207,7 +297,7 @@ public final class ModelTest {
             text.append(i == 0 ? "" : ";").append(all[random.nextInt(all.length)]);
         }
         if (random.nextInt(8) == 0) {
-            text.setCharAt(random.nextInt(text.length()), "rwbt;=01789 x".charAt(random.nextInt(13)));
+            text.setCharAt(random.nextInt(text.length()), "rwbt;=01789/:,2Rx".charAt(random.nextInt(17)));
         }
         if (random.nextInt(12) == 0) {
             text.setLength(random.nextInt(text.length()));

@@ -154,6 +154,29 @@ public final class PremiumsBoundsTest {
             r.same("cheapest(0, 1, 1): 990 and 10", 0, r.cheapest(0, 1, 1));
             r.same("cheapest(0, 1, 2): 1980 and 20", 1, r.cheapest(0, 1, 2));
         });
+        Bounds.test("of several the lowest number: whose cover is greater or less does not matter", r -> {
+            r.addInsurer(0, 50, 200);
+            r.addInsurer(0, 50, 100);
+            r.addInsurer(0, 50, 300);
+            r.same("cheapest(0, 100, 100)", 0, r.cheapest(0, 100, 100));
+            r.same("cheapest(0, 201, 100)", 2, r.cheapest(0, 201, 100));
+        });
+        Bounds.test("the least premium: that for the strength of this core, in the heat of now", r -> {
+            r.addTenant(10000);
+            r.addInsurer(0, 99, 100);
+            r.addInsurer(0, 1, 100);
+            r.lease(9, 0, 200);
+            r.set(1, 0);
+            r.write(9, true);
+            // A core that is new costs 990 and 10 thousandths, one with the strength 99 costs 1089 and 11.
+            r.same("cheapest(8, 1, 1)", 0, r.cheapest(8, 1, 1));
+            r.same("cheapest(9, 1, 1)", 1, r.cheapest(9, 1, 1));
+            r.set(1, 1);
+            r.write(9, true);
+            r.same("cheapest(8, 1, 1) in a heat of 1", 1, r.cheapest(8, 1, 1));
+            r.pass(1);
+            r.same("cheapest(8, 1, 1) in a heat of 0", 0, r.cheapest(8, 1, 1));
+        });
         Bounds.test("the least premium: the last one, by one", r -> {
             r.addInsurer(0, 101, 100);
             r.addInsurer(0, 100, 100);

@@ -309,6 +309,21 @@ public final class PulsesBoundsTest {
             r.same("tenant(0, 3)", 64, r.tenant(0, 3));
             r.same("owed(0, 0)", CoreLeases.NONE, r.owed(0, 0));
         });
+        Bounds.test("each tick of a pass is one: what it ends is not late or insured in a later one", r -> {
+            r.calm().ones(0, 1, 2);
+            r.lease(3, 1, 3);
+            r.write(3, true);
+            r.insure(1, 0, 6);
+            r.insure(2, 0, 5);
+            for (int core = 1; core <= 3; core++) {
+                r.read(core);
+            }
+            r.pass(100);
+            // The write-backs were due at 5: in the sixth tick a policy of 6 ticks stood still, one of 5 had ended.
+            r.sameCounts("behind it", 12, 2, 15, 1);
+            r.same("claims", 1, r.insurer(0, 5) + r.insurer(0, 4));
+            r.same("core(3, 8)", 0, r.core(3, 8));
+        });
         Bounds.test("no pulse comes with a loss by delay", r -> {
             r.calm().ones(0, 1);
             r.read(0);

@@ -184,6 +184,18 @@ public final class TextsBoundsTest {
             r.same("run(0)", 1, r.run(0));
             r.sameCounts("t9", 0, 10);
         });
+        Bounds.test("t: each of so many ticks is one", r -> {
+            r.calm().ones(0, 1);
+            r.lease(2, 1, 3);
+            r.write(2, true);
+            r.heatTo(90);
+            r.read(0);
+            r.read(2);
+            r.type("t9");
+            r.same("run(0)", 1, r.run(0));
+            // The write-back of 2 was dropped with its lease in the third tick, that of 0 was late in the sixth.
+            r.sameCounts("behind t9", 0, 9, 1, 72, 6, 0, 12, 1, 15, 1);
+        });
         Bounds.test("w: the bits 0 and 1", r -> {
             r.calm().one(0);
             r.type("w00=0");

@@ -118,6 +118,14 @@ public final class ThereIsBoundsTest {
             r.renew(0);
             r.same("behind a renewal", 3, r.core(0, 8));
         });
+        Bounds.test("8: so far, also ahead of the lease", r -> {
+            r.calm().lease(0, 0, 6);
+            r.write(0, true);
+            r.read(0);
+            r.pass(6);
+            r.lease(0, 1, 9);
+            r.sameCore("leased anew", 0, 0, 98, 1, 9, -1, 0, 0, -1, 1);
+        });
         Bounds.test("8: not by a read, an overwriting, a drop or a renewal", r -> {
             r.calm().set(7, 0);
             r.lease(0, 0, 4);
@@ -337,6 +345,15 @@ public final class ThereIsBoundsTest {
             r.same("owed(0, 0)", 0, r.owed(0, 0));
             r.same("owed(1, 0)", CoreLeases.NONE, r.owed(1, 0));
         });
+        Bounds.test("1: the time at which it is due, not the ticks until then", r -> {
+            r.calm().ones(0, 1);
+            r.pass(7);
+            r.read(1);
+            r.pass(2);
+            r.read(0);
+            r.same("owed(0, 1)", 12, r.owed(0, 1));
+            r.same("owed(1, 1)", 14, r.owed(1, 1));
+        });
         Bounds.test("place: 63 is the greatest, when 64 are owed", r -> {
             r.calm().allOnes();
             for (int core = 63; core >= 0; core--) {
@@ -437,6 +454,16 @@ public final class ThereIsBoundsTest {
             }
             r.sameCounts("full", 2, 6, 3, 3);
         });
+        Bounds.test("4 and 7: cores that are leased, and all whose bit is 1, leased or not", r -> {
+            r.calm().lease(0, 0, 1);
+            r.lease(1, 1, 9);
+            r.lease(2, 0, 9);
+            r.write(0, true);
+            r.write(1, true);
+            r.sameCounts("ahead of the end of a lease", 4, 3, 7, 2);
+            r.pass(1);
+            r.sameCounts("behind it", 4, 2, 7, 2);
+        });
         Bounds.test("8 to 15: each of what is counted by one, and by nothing else", ThereIsBoundsTest::countsApart);
         Bounds.test("16 and 17: the money of the house, and what it paid", r -> {
             r.addTenant(10000);
@@ -446,6 +473,15 @@ public final class ThereIsBoundsTest {
             r.renew(1);
             r.renew(1);
             r.sameCounts("paid twice", 16, 3900, 17, 100);
+        });
+        Bounds.test("16: the house may have more than 10000", r -> {
+            r.set(0, 20);
+            for (int i = 0; i < 3; i++) {
+                r.addTenant(10000);
+                r.lease(i, i, 200);
+                r.lease(8 + i, i, 200);
+            }
+            r.sameCounts("of six leases", 16, 24000);
         });
         Bounds.test("18: saved states, 0 to 6", r -> {
             for (int i = 0; i <= 8; i++) {

@@ -106,6 +106,18 @@ public final class WouldBeBoundsTest {
             r.same("ifRead(27, 4)", 14, r.ifRead(27, 4));
             r.same("ifRead(0, 4)", 2, r.ifRead(0, 4));
         });
+        Bounds.test("4: policies of every tenant with every insurer", r -> {
+            r.calm().addInsurer(0, 1, 1);
+            r.addInsurer(0, 1, 1);
+            for (int i = 1; i <= 6; i++) {
+                r.lease(i, i % 2, 9);
+                r.write(i, true);
+                r.insure(i, i % 3, 9);
+            }
+            r.set(5, 100);
+            r.same("ifRead(0, 1)", 6, r.ifRead(0, 1));
+            r.same("ifRead(0, 4)", 6, r.ifRead(0, 4));
+        });
         Bounds.test("4: a policy of a bit that would stay does not count", r -> {
             r.calm().ones(0, 1);
             r.insure(1, 0, 9);
@@ -239,6 +251,35 @@ public final class WouldBeBoundsTest {
             r.set(5, 99);
             r.same("gentlest()", 0, r.gentlest());
         });
+        Bounds.test("the fewest bits by disturbing: of whatever tenant, and of cores that are not leased", r -> {
+            r.calm().ones(0, 9);
+            r.lease(8, 1, 1);
+            r.write(8, true);
+            r.lease(10, 0, 1);
+            r.write(10, true);
+            r.lease(25, 1, 9);
+            r.write(25, true);
+            r.pass(1);
+            r.set(5, 100);
+            // Reads would lose: of 0 that of 8; of 9 those of 8, 10, 25; of 25 that of 9. The rest can't be read.
+            r.same("gentlest()", 0, r.gentlest());
+            r.lease(1, 1, 9);
+            r.write(25, true);
+            r.same("9 was lost, 25 would lose none", 25, r.gentlest());
+        });
+        Bounds.test("the cores that can be read: also those of the last tenant", r -> {
+            for (int i = 0; i < 6; i++) {
+                r.addTenant(100);
+            }
+            r.lease(40, 5, 9);
+            r.write(40, true);
+            r.same("gentlest()", 40, r.gentlest());
+        });
+        Bounds.test("the cores that can be read: also one that is too weak to be written", r -> {
+            r.calm().one(40);
+            r.set(4, 100);
+            r.same("gentlest()", 40, r.gentlest());
+        });
         Bounds.test("of all 64, each of which would lose 14", r -> {
             r.calm().allOnes();
             r.set(5, 100);
@@ -318,6 +359,20 @@ public final class WouldBeBoundsTest {
             r.same("savable(2)", 2, r.savable(2));
             r.same("savable(3)", 3, r.savable(3));
         });
+        Bounds.test("the limit of the time does not matter: at the end of it write-backs can be late still", r -> {
+            r.calm().late(10000);
+            r.ones(0, 1, 2);
+            r.set(3, 1);
+            for (int core = 0; core < 3; core++) {
+                r.read(core);
+            }
+            r.same("savable(1)", 2, r.savable(1));
+            r.set(3, 0);
+            r.write(0, true);
+            r.read(0);
+            r.same("savable(1) with one due at once", 2, r.savable(1));
+            r.sameCounts("the time", 0, 10000);
+        });
         Bounds.test("the limit of the time does not matter", r -> {
             r.calm().late(10000);
             r.ones(0, 1, 2);
@@ -362,6 +417,19 @@ public final class WouldBeBoundsTest {
             r.same("savable(3)", 2, r.savable(3));
             r.set(6, 10);
             r.same("savable(1)", 3, r.savable(1));
+        });
+        Bounds.test("the heat falls in each of the ticks", r -> {
+            r.calm().ones(0, 1, 2, 3);
+            for (int core = 0; core < 4; core++) {
+                r.read(core);
+            }
+            r.set(1, 10);
+            r.set(4, 97);
+            r.set(6, 5);
+            // With a pace of 1 the heats ahead of the write-backs are 0, 5, 10, 15; without cooling 0, 10, 20, 30.
+            r.same("savable(1)", 4, r.savable(1));
+            r.set(6, 0);
+            r.same("savable(1) without cooling", 3, r.savable(1));
         });
         Bounds.test("a bit that became 1 counts, also if it is disturbed behind it", r -> {
             r.calm().ones(0, 1);
